@@ -32,8 +32,8 @@ public final class VanPlays {
     private final Hall[] halls = new Hall[MOST_HALLS];
     private final Show[] shows = new Show[MOST_SHOWS];
     private final Plugging plugging = new Plugging();
-    private final Planner planner = new Planner(halls);
-    private final TermsReader reader = new TermsReader(tape);
+    private final Planner planner = new Planner();
+    private final TermsReader reader = new TermsReader();
     private int hallCount;
     private int showCount;
 
@@ -151,7 +151,7 @@ public final class VanPlays {
         planner.start(shows[s]);
         for (int h = 0; h < hallCount; h++) {
             if (halls[h].given[s] > 0 && planner.asksMore() && fitOf(shows[s], halls[h]) == FITTING) {
-                planner.ask(h, halls[h].given[s]);
+                planner.ask(h, halls, halls[h].given[s]);
                 closeTakenNights(h);
             }
         }
@@ -192,7 +192,7 @@ public final class VanPlays {
     public int terms(int s) {
         int answer = NO_SHOW;
         if (isShow(s)) {
-            if (reader.readText()) {
+            if (reader.readText(tape)) {
                 shows[s].terms.copyFrom(reader.draft);
                 answer = reader.told;
             } else {
@@ -391,6 +391,11 @@ public final class VanPlays {
             }
         }
 
+        void copyFrom(Tape other) {
+            System.arraycopy(other.bytes, 0, bytes, 0, MOST_BYTES);
+            length = other.length;
+        }
+
         int byteAt(int place) {
             return place >= 0 && place < length ? bytes[place] : NONE;
         }
@@ -506,9 +511,10 @@ public final class VanPlays {
 
     /** Puts LAMPS into CIRCUITS so that the AMPS lacking are least; of like ways it keeps the first. */
     private static final class Plugging {
-        private final int[] free = new int[MOST_CIRCUITS];
+        private final int[] freeAmps = new int[MOST_CIRCUITS];
         private final int[] lampAmps = new int[MOST_LAMPS];
         private final int[] ampsFrom = new int[MOST_LAMPS + 1];
+        private final int[] biggestFrom = new int[MOST_LAMPS + 1];
         private final int[] tried = new int[MOST_LAMPS];
         private final int[] found = new int[MOST_LAMPS];
         private int lampCount;
@@ -538,12 +544,14 @@ public final class VanPlays {
             lampCount = Math.min(lamps.size, MOST_LAMPS);
             circuitCount = Math.min(circuits.size, MOST_CIRCUITS);
             for (int c = 0; c < circuitCount; c++) {
-                free[c] = circuits.amps[c];
+                freeAmps[c] = circuits.amps[c];
             }
             ampsFrom[lampCount] = 0;
+            biggestFrom[lampCount] = 0;
             for (int l = lampCount - 1; l >= 0; l--) {
                 lampAmps[l] = lamps.amps[l];
                 ampsFrom[l] = ampsFrom[l + 1] + lampAmps[l];
+                biggestFrom[l] = Math.max(biggestFrom[l + 1], lampAmps[l]);
             }
         }
 
@@ -552,7 +560,7 @@ public final class VanPlays {
                 keep(lack);
                 return;
             }
-            if (lack + Math.max(0, ampsFrom[lamp] - freeAmps()) >= least) {
+            if (lack + lackAtLeast(lamp) >= least) {
                 return;
             }
             int need = lampAmps[lamp];
@@ -560,11 +568,11 @@ public final class VanPlays {
                 if (isLikeOneAhead(c)) {
                     continue;
                 }
-                int had = free[c];
-                free[c] = Math.max(0, had - need);
+                int had = freeAmps[c];
+                freeAmps[c] = Math.max(0, had - need);
                 tried[lamp] = c;
                 search(lamp + 1, lack + Math.max(0, need - had));
-                free[c] = had;
+                freeAmps[c] = had;
             }
         }
 
@@ -575,18 +583,21 @@ public final class VanPlays {
             }
         }
 
-        private int freeAmps() {
-            int sum = 0;
+        /** What must lack, however the LAMPS from this one on are put: it lets the search leave hopeless ways early. */
+        private int lackAtLeast(int lamp) {
+            int free = 0;
+            int mostFree = 0;
             for (int c = 0; c < circuitCount; c++) {
-                sum += free[c];
+                free += freeAmps[c];
+                mostFree = Math.max(mostFree, freeAmps[c]);
             }
-            return sum;
+            return Math.max(0, Math.max(ampsFrom[lamp] - free, biggestFrom[lamp] - mostFree));
         }
 
         /** A CIRCUIT with as many free AMPS as one ahead of it can do no better than that one did. */
         private boolean isLikeOneAhead(int circuit) {
             for (int c = 0; c < circuit; c++) {
-                if (free[c] == free[circuit]) {
+                if (freeAmps[c] == freeAmps[circuit]) {
                     return true;
                 }
             }
@@ -598,7 +609,6 @@ public final class VanPlays {
     private static final class Planner {
         private static final int SETS = 1 << MOST_ASKED;
 
-        private final Hall[] halls;
         private final int[] asked = new int[MOST_ASKED];
         private final int[] points = new int[MOST_ASKED];
         private final int[] nightsApart = new int[MOST_ASKED * MOST_ASKED];
@@ -614,10 +624,6 @@ public final class VanPlays {
         private int miles;
         private int row;
 
-        Planner(Hall[] halls) {
-            this.halls = halls;
-        }
-
         void start(Show show) {
             size = 0;
             from = show.from;
@@ -630,7 +636,7 @@ public final class VanPlays {
             return size < MOST_ASKED;
         }
 
-        void ask(int h, int given) {
+        void ask(int h, Hall[] halls, int given) {
             if (!asksMore()) {
                 return;
             }
@@ -824,7 +830,8 @@ public final class VanPlays {
         int told;
         int fault;
         int place;
-        private final Tape tape;
+        /** A copy, so that the reader can be made without the tape. */
+        private final Tape text = new Tape();
         private boolean feeTold;
         private boolean subsidyTold;
         private boolean lossTold;
@@ -833,12 +840,8 @@ public final class VanPlays {
         private int kind;
         private int number;
 
-        TermsReader(Tape tape) {
-            this.tape = tape;
-        }
-
-        boolean readText() {
-            start();
+        boolean readText(Tape tape) {
+            start(tape);
             for (int i = 0; i <= MOST_BYTES; i++) {
                 nextToken();
                 if (kind == TEXT_END) {
@@ -852,7 +855,8 @@ public final class VanPlays {
             return true;
         }
 
-        private void start() {
+        private void start(Tape tape) {
+            text.copyFrom(tape);
             draft.clear();
             told = 0;
             fault = 0;
@@ -967,11 +971,11 @@ public final class VanPlays {
         }
 
         private void nextToken() {
-            while (at < tape.length && isBlank(tape.byteAt(at))) {
+            while (at < text.length && isBlank(text.byteAt(at))) {
                 at++;
             }
             first = at;
-            int sign = tape.byteAt(at);
+            int sign = text.byteAt(at);
             if (sign == NONE) {
                 kind = TEXT_END;
             } else if (isLetter(sign) || isDigit(sign)) {
@@ -985,8 +989,8 @@ public final class VanPlays {
         private void readRun() {
             int letters = 0;
             int value = 0;
-            while (at < tape.length && (isLetter(tape.byteAt(at)) || isDigit(tape.byteAt(at)))) {
-                int sign = tape.byteAt(at);
+            while (at < text.length && (isLetter(text.byteAt(at)) || isDigit(text.byteAt(at)))) {
+                int sign = text.byteAt(at);
                 if (isLetter(sign)) {
                     letters++;
                 } else {
@@ -1010,7 +1014,7 @@ public final class VanPlays {
                 return false;
             }
             for (int i = 0; i < word.length(); i++) {
-                if (tape.byteAt(first + i) != word.charAt(i)) {
+                if (text.byteAt(first + i) != word.charAt(i)) {
                     return false;
                 }
             }
@@ -1022,11 +1026,11 @@ public final class VanPlays {
         }
 
         private static boolean isLetter(int sign) {
-            return isWithin(sign, 'a', 'z');
+            return sign >= 'a' && sign <= 'z';
         }
 
         private static boolean isDigit(int sign) {
-            return isWithin(sign, '0', '9');
+            return sign >= '0' && sign <= '9';
         }
     }
 }
