@@ -1,4 +1,5 @@
 import java.nio.charset.StandardCharsets;
+import java.util.Arrays;
 import java.util.NoSuchElementException;
 
 /** What the tests have in common: counting wrong answers, and putting bytes on a tape. */
@@ -23,6 +24,13 @@ final class Check {
         due(call, got ? 1 : 0, want ? 1 : 0);
     }
 
+    static void due(String call, String got, String want) {
+        if (!got.equals(want)) {
+            wrong++;
+            System.out.println(call + ": seen is\n  " + got + "\ndue is\n  " + want);
+        }
+    }
+
     static void dueThrow(String call, Call made) {
         try {
             int got = made.answer();
@@ -38,6 +46,13 @@ final class Check {
         if (wrong != 0) {
             System.exit(1);
         }
+    }
+
+    /** Numbers just outside of least .. most and far from it, with some that a narrower number would wrap into it. */
+    static int[] outside(int least, int most) {
+        int[] numbers = {least - 1, most + 1, Integer.MIN_VALUE, Integer.MAX_VALUE, Integer.MIN_VALUE + least,
+            least - 256, most + 256, least + 256, least - 65536, least + 65536};
+        return Arrays.stream(numbers).filter(n -> n < least || n > most).distinct().toArray();
     }
 
     /** The tape, empty before, has these bytes. */
@@ -85,6 +100,21 @@ final class Check {
     static int smallShow(VanPlays x, int from, int to, int miles, int row) {
         x.end(0);
         return x.show(0, 0, from, to, miles, row);
+    }
+
+    /** Twelve halls and six shows of all nights, each hall with a point for each show, none booked yet. */
+    static VanPlays fullScheme() {
+        VanPlays x = new VanPlays();
+        for (int h = 0; h < 12; h++) {
+            wideHall(x, h, 0);
+        }
+        for (int s = 0; s < 6; s++) {
+            smallShow(x, 0, 13, 200, 14);
+            for (int h = 0; h < 12; h++) {
+                x.give(h, s, 1);
+            }
+        }
+        return x;
     }
 
     static int terms(VanPlays x, int s, String text) {
