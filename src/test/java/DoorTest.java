@@ -21,6 +21,7 @@ public final class DoorTest {
         lossOfBoth();
         greatestDoor();
         sumsWithoutDoors();
+        showsWithoutTours();
         sumOfAnotherWhat();
         sums();
         greatestSums();
@@ -294,6 +295,18 @@ public final class DoorTest {
         }
         x.door(0, 2, 0);
         Check.due("one door without pence", x.sum(4), 1);
+    }
+
+    /** A SHOW that was never BOOKED has no DOORS on any NIGHT. */
+    private static void showsWithoutTours() {
+        VanPlays x = Check.fullScheme();
+        for (int what = 0; what < 5; what++) {
+            Check.due("sum(" + what + ") of shows without tours", x.sum(what), 0);
+        }
+        for (int night = 0; night < 14; night++) {
+            int on = night;
+            Check.dueThrow("no door on night " + night, () -> x.shared(5, on, 0));
+        }
     }
 
     /** sum: "NONE for another what." */

@@ -39,7 +39,42 @@ public final class FaceTest {
         extra.forEach(member -> Check.due("too much: " + member, 1, 0));
         Check.due("the class is final", Modifier.isFinal(VanPlays.class.getModifiers()), true);
         Check.due("NONE", VanPlays.NONE, -1);
+        classesInside();
         Check.close();
+    }
+
+    /** Rules 1, 2 and 11: of the classes inside, of names of private methods, of how many there are. */
+    private static void classesInside() {
+        TreeSet<String> names = new TreeSet<>();
+        for (Method method : VanPlays.class.getDeclaredMethods()) {
+            if (isSeen(method.getModifiers())) {
+                names.add(method.getName());
+            }
+        }
+        Class<?>[] inside = VanPlays.class.getDeclaredClasses();
+        Check.due("rule 11, twelve classes", inside.length < 12, true);
+        lookInto(VanPlays.class, names);
+        for (Class<?> one : inside) {
+            int modifiers = one.getModifiers();
+            boolean shown = Modifier.isPublic(modifiers) || Modifier.isProtected(modifiers);
+            Check.due("rule 1, " + one + " is hidden", shown, false);
+            Check.due("rule 1, " + one + " is static", Modifier.isStatic(modifiers), true);
+            lookInto(one, names);
+        }
+    }
+
+    private static void lookInto(Class<?> one, TreeSet<String> publicNames) {
+        int fields = 0;
+        for (Field field : one.getDeclaredFields()) {
+            fields += Modifier.isStatic(field.getModifiers()) ? 0 : 1;
+            Check.due("rule 5, " + field + " is final",
+                    Modifier.isStatic(field.getModifiers()) && !Modifier.isFinal(field.getModifiers()), false);
+        }
+        Check.due("rule 11, fields of " + one, fields <= 20, true);
+        for (Method method : one.getDeclaredMethods()) {
+            boolean hidden = !Modifier.isPublic(method.getModifiers());
+            Check.due("rule 1, the name of " + method, hidden && publicNames.contains(method.getName()), false);
+        }
     }
 
     private static TreeSet<String> face() {

@@ -261,7 +261,7 @@ public final class HallsAndShowsTest {
         return x.rewire(h, high, wide);
     }
 
-    /** "CIRCUITS of HALL h are the tape's bytes now, HIGH and WIDE as told: true". */
+    /** "CIRCUITS of HALL h are the tape's bytes now, HIGH and WIDE as told". */
     private static void rewires() {
         VanPlays x = wired();
         Check.due("before", x.fits(0, 1), -2);

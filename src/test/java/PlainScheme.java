@@ -6,7 +6,7 @@ import java.util.TreeMap;
 import java.util.regex.Matcher;
 import java.util.regex.Pattern;
 
-/** The document once more, by looking at all ways: slow, and written apart from VanPlays, so that the two can be compared. */
+/** The document once more, by looking at all ways: slow, and written apart from VanPlays to be compared with it. */
 final class PlainScheme {
     private static final class Place {
         int x;
@@ -418,7 +418,8 @@ final class PlainScheme {
         for (int i = 0; i < terms.size(); i++) {
             switch (terms.get(i)) {
                 case "fee" -> fee = Long.parseLong(terms.get(i + 1));
-                case "share" -> shares.add(new long[] {Long.parseLong(terms.get(i + 1)), Long.parseLong(terms.get(i + 3))});
+                case "share" -> shares.add(
+                        new long[] {Long.parseLong(terms.get(i + 1)), Long.parseLong(terms.get(i + 3))});
                 case "subsidy" -> {
                     subsidy = Long.parseLong(terms.get(i + 1));
                     most = Long.parseLong(terms.get(i + 3));

@@ -11,6 +11,7 @@ public final class PlugTest {
         fullCircuits();
         firstWay();
         noLampsAtAll();
+        eachSearchIsNew();
         pluggedNoSuchOnes();
         pluggedNoSuchLamp();
         cannotBePlugged();
@@ -113,7 +114,7 @@ public final class PlugTest {
 
     /** "of all ways the first: LAMP by LAMP the least CIRCUIT that may be." */
     private static void firstWay() {
-        dueWay("with both of 3 in circuit 0 the 4 goes there too", new int[] {3, 3, 4, 6}, new int[] {10, 6}, 0, 0, 0, 1);
+        dueWay("both of 3 and the 4 in circuit 0", new int[] {3, 3, 4, 6}, new int[] {10, 6}, 0, 0, 0, 1);
         dueWay("of like circuits the lesser", new int[] {5, 4, 6}, new int[] {5, 5, 10}, 0, 1, 2);
         dueWay("not the least that has room, but the least that may be", new int[] {3, 6}, new int[] {6, 3}, 1, 0);
         dueWay("the last circuit alone", new int[] {9}, new int[] {1, 1, 1, 9}, 3);
@@ -129,6 +130,21 @@ public final class PlugTest {
         Check.due("no lamps fit", x.fits(0, 0), 1);
         Check.due("no lamps lack nothing", x.lacks(0, 0), 0);
         Check.due("no lamps, no circuit", x.plugged(0, 0, 0), -1);
+    }
+
+    /** Nothing of a SHOW with many great LAMPS is left for one with few small ones. */
+    private static void eachSearchIsNew() {
+        VanPlays x = new VanPlays();
+        Check.hall(x, 0, 0, 9, 9, 5, 5);
+        Check.show(x, 0, 0, 200, 200, 200, 200, 200, 200, 200, 200);
+        Check.show(x, 0, 0, 5, 5);
+        Check.show(x, 0, 0);
+        Check.due("the great ones", x.fits(0, 0), -2);
+        Check.due("the small ones behind them", x.fits(1, 0), 1);
+        Check.due("the great ones lack", x.lacks(0, 0), 1590);
+        Check.due("the small ones lack nothing", x.lacks(1, 0), 0);
+        Check.due("none behind the great ones", x.lacks(0, 0) - x.lacks(2, 0), 1590);
+        Check.due("the second of two", x.plugged(1, 0, 1), 1);
     }
 
     /** plugged: "NONE: no such ones" of SHOWS and HALLS. */

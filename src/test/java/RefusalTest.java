@@ -123,10 +123,10 @@ public final class RefusalTest {
 
     private static void refusedHalls() {
         for (int bad : Check.outside(0, 99)) {
-            same("hall with " + bad, x -> Check.due("x", Check.hall(withoutTape(x), bad, 1, 1, 1, 9), -1), EMPTY_TAPE);
-            same("hall with " + bad, x -> Check.due("y", Check.hall(withoutTape(x), 1, bad, 1, 1, 9), -1), EMPTY_TAPE);
-            same("hall with " + bad, x -> Check.due("high", Check.hall(withoutTape(x), 1, 1, bad, 1, 9), -1), EMPTY_TAPE);
-            same("hall with " + bad, x -> Check.due("wide", Check.hall(withoutTape(x), 1, 1, 1, bad, 9), -1), EMPTY_TAPE);
+            same("hall with x " + bad, x -> hall(x, bad, 1, 1, 1), EMPTY_TAPE);
+            same("hall with y " + bad, x -> hall(x, 1, bad, 1, 1), EMPTY_TAPE);
+            same("hall with high " + bad, x -> hall(x, 1, 1, bad, 1), EMPTY_TAPE);
+            same("hall with wide " + bad, x -> hall(x, 1, 1, 1, bad), EMPTY_TAPE);
         }
         same("hall of twenty circuits", x -> Check.due("hall", x.hall(1, 1, 1, 1), -1), EMPTY_TAPE);
         same("hall of none", x -> Check.due("hall", withoutTape(x).hall(1, 1, 1, 1), -1), EMPTY_TAPE);
@@ -138,8 +138,12 @@ public final class RefusalTest {
         };
         same("a thirteenth hall", x -> {
             ten.on(x);
-            Check.due("hall", Check.hall(x, 1, 1, 1, 1, 9), -1);
+            hall(x, 1, 1, 1, 1);
         }, ten);
+    }
+
+    private static void hall(VanPlays x, int east, int north, int high, int wide) {
+        Check.due("hall", Check.hall(withoutTape(x), east, north, high, wide, 9), -1);
     }
 
     private static VanPlays withoutTape(VanPlays x) {
@@ -221,7 +225,8 @@ public final class RefusalTest {
         String other = "fee 1;share 9 above 9;subsidy 9 most 7;loss hall;share 9 above 9;";
         for (int s = 0; s < 2; s++) {
             int show = s;
-            same("terms with a fault", x -> Check.due("terms", Check.terms(withoutTape(x), show, other), -64), EMPTY_TAPE);
+            same("terms with a fault",
+                    x -> Check.due("terms", Check.terms(withoutTape(x), show, other), -64), EMPTY_TAPE);
         }
         for (int bad : Check.outside(0, 1)) {
             same("terms of show " + bad, x -> Check.due("terms", x.terms(bad), -300), EMPTY_TAPE);
@@ -273,7 +278,8 @@ public final class RefusalTest {
     /** Calls that are not refused can be seen: else the comparisons above would tell nothing. */
     private static void seenTellsApart() {
         Act[] acts = {x -> x.end(19), x -> x.feed(0, 0, 0, 0, 0), x -> x.give(0, 0, 5), x -> x.give(1, 1, 3),
-            x -> x.snow(0, 0), x -> x.door(0, 1, 0), x -> x.door(0, 0, 501), x -> Check.terms(withoutTape(x), 1, "fee 9;"),
+            x -> x.snow(0, 0), x -> x.door(0, 1, 0), x -> x.door(0, 0, 501),
+            x -> Check.terms(withoutTape(x), 1, "fee 9;"),
             x -> Check.terms(withoutTape(x), 0, "fee 899;share 50 above 10;subsidy 10 most 9;loss both;"),
             x -> Check.wideHall(withoutTape(x), 0, 0), x -> Check.smallShow(x, 0, 0, 1, 1), x -> x.book(0)};
         for (int i = 0; i < acts.length; i++) {

@@ -1,6 +1,6 @@
 import java.lang.management.ManagementFactory;
 
-/** An object's rows are made once: 512 calls of the dearest kinds leave next to nothing behind in the run's one room. */
+/** An object's rows are made once: 512 calls of the dearest kinds leave next to nothing in the run's one room. */
 public final class RoomTest {
     private static final long MOST_BYTES_OF_OBJECT = 250_000;
     private static final long MOST_BYTES_OF_CALLS = 60_000;

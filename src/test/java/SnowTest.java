@@ -100,7 +100,10 @@ public final class SnowTest {
         dueSnow("snow on it", x, 0, 13, -2, "");
     }
 
-    /** "with which its TOUR is LAWFUL": the way from the HALL ahead of it, just long enough and a mile too long. */
+    /**
+     * "with which its TOUR, the lost one left out, is LAWFUL": the way from the HALL ahead of it, just long enough
+     * and a mile too long.
+     */
     private static void waysFromTheOneAhead() {
         VanPlays x = scheme(8, 5, 14, 0, 5, 10);
         Check.dueTour("booked", x, 0, "012");

@@ -58,7 +58,10 @@ public final class TermsTest {
         good(" \n ", 0);
     }
 
-    /** "'fee' NUMBER ; | 'share' NUMBER 'above' NUMBER ; | 'subsidy' NUMBER 'most' NUMBER ; | 'loss' ( 'hall' | 'both' ) ;" */
+    /**
+     * "'fee' NUMBER ; | 'share' NUMBER 'above' NUMBER ; | 'subsidy' NUMBER 'most' NUMBER ; |
+     * 'loss' ( 'hall' | 'both' ) ;": with the least and the greatest NUMBERS.
+     */
     private static void eachTerm() {
         good("fee 0;", 1);
         good("fee 99999;", 1);

@@ -10,6 +10,7 @@ public final class TourTest {
         noNightIsLeft();
         waysJustLongEnough();
         waysOfManyNights();
+        waysBackToALesserHall();
         restsOfEachLength();
         restsWithANightTooFew();
         itsNightsAlone();
@@ -117,6 +118,11 @@ public final class TourTest {
         x.give(0, 1, 1);
         x.book(0);
         dueBook("a night later", x, 1, 1, ".0");
+        Check.wideHall(x, 0, 0);
+        Check.smallShow(x, 0, 13, 1, 14);
+        x.give(0, 2, 1);
+        x.give(1, 2, 1);
+        dueBook("behind two other shows", x, 2, 2, "1.0");
     }
 
     /** The same, where other SHOWS are there on all its NIGHTS. */
@@ -185,6 +191,21 @@ public final class TourTest {
         dueBook("the longest way", twoHalls(198, 13, 16), 0, 3, "0............1");
     }
 
+    /** The way is as long from a greater HALL to a lesser one. */
+    private static void waysBackToALesserHall() {
+        for (int nights : new int[] {2, 3}) {
+            VanPlays x = new VanPlays();
+            Check.wideHall(x, 0, 0);
+            Check.wideHall(x, 25, 0);
+            Check.wideHall(x, 10, 0);
+            Check.smallShow(x, 0, nights, 10, 14);
+            for (int h = 0; h < 3; h++) {
+                x.give(h, 0, 1);
+            }
+            dueBook("fifteen miles back", x, 0, nights, nights == 2 ? "02" : "02.1");
+        }
+    }
+
     /** "no more NIGHTS on it without a free one between than IN A ROW tells". */
     private static void restsOfEachLength() {
         String[] due = {"0.1.2.3.4.5", "01.23.45", "012.345", "0123.45", "01234.5", "012345", "012345"};
@@ -202,7 +223,8 @@ public final class TourTest {
             int nights = needed[row - 1];
             Check.due(row + " in a row, " + nights + " nights",
                     scheme(0, nights - 1, 1, row, 1, 1, 1, 1, 1, 1).book(0), 6);
-            dueBook(row + " in a row, a night less", scheme(0, nights - 2, 1, row, 1, 1, 1, 1, 1, 1), 0, 5, due[row - 1]);
+            dueBook(row + " in a row, a night less",
+                    scheme(0, nights - 2, 1, row, 1, 1, 1, 1, 1, 1), 0, 5, due[row - 1]);
         }
     }
 
