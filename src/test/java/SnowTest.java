@@ -172,6 +172,10 @@ public final class SnowTest {
         x = scheme(6, 1, 4, 0, 0, 0, 0, 0);
         Check.dueTour("four in a row", x, 0, "0123.4");
         dueSnow("a gap between three and one is one too many", x, 0, 0, 6, ".123.40");
+        x = scheme(4, 1, 1, 0, 0);
+        dueSnow("one in a row from the first night on", x, 1, 2, 3, "0..1");
+        x = scheme(4, 1, 2, 0, 0, 0);
+        dueSnow("two in a row from the first night on", x, 2, 3, 4, "01..2");
     }
 
     /** "(whether its HALLS are ASKED now is not looked at)". */
