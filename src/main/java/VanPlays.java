@@ -608,16 +608,22 @@ public final class VanPlays {
     /** Finds the BEST TOUR of a SHOW: from the last NIGHT back what can come, then from the first NIGHT the way. */
     private static final class Planner {
         private static final int SETS = 1 << MOST_ASKED;
+        /** The most that six HALLS can give, 60, goes into so many bits. */
+        private static final int GAIN_BITS = 6;
+        private static final int GAIN_MASK = (1 << GAIN_BITS) - 1;
+        /** In the place of NIGHTS in a row: from that NIGHT on or from a later one, a free NIGHT being ahead of it. */
+        private static final int LATER = 0;
 
         private final int[] asked = new int[MOST_ASKED];
         private final int[] points = new int[MOST_ASKED];
         private final int[] nightsApart = new int[MOST_ASKED * MOST_ASKED];
         /** A bit for each NIGHT on which the HALL can't be had. */
         private final int[] closed = new int[MOST_ASKED];
-        /** The most POINTS from a NIGHT on, by NIGHT, HALLS used, HALL of that NIGHT, NIGHTS in a row; 0: can't be. */
-        private final int[] gain = new int[NIGHTS * SETS * MOST_ASKED * MOST_ASKED];
-        /** The same from a NIGHT on or from a later one, a free NIGHT being ahead of it. */
-        private final int[] laterGain = new int[NIGHTS * SETS * MOST_ASKED];
+        /**
+         * The most POINTS from a NIGHT on, by NIGHT, HALLS used and HALL of that NIGHT; 0: can't be. Those for LATER
+         * and for each number of NIGHTS in a row stand in one element, so that an object takes little room.
+         */
+        private final long[] gains = new long[NIGHTS * SETS * MOST_ASKED];
         private int size;
         private int from;
         private int to;
@@ -672,14 +678,17 @@ public final class VanPlays {
         }
 
         private void weigh(int night, int used, int i) {
-            int rested = gainRested(night, used, i);
-            for (int run = 1; run <= Integer.bitCount(used); run++) {
-                int next = Math.max(rested, gainNextNight(night, used, i, run));
-                boolean can = run <= row && !has(closed[i], night);
-                gain[cell(night, used, i, run)] = can ? points[i] + next : 0;
+            long packed = 0;
+            if (!has(closed[i], night)) {
+                int rested = gainRested(night, used, i);
+                for (int run = 1; run <= row && run <= Integer.bitCount(used); run++) {
+                    int next = Math.max(rested, gainNextNight(night, used, i, run));
+                    packed |= pack(points[i] + next, run);
+                }
             }
-            int later = night < to ? laterGain[laterCell(night + 1, used, i)] : 0;
-            laterGain[laterCell(night, used, i)] = Math.max(later, gain[cell(night, used, i, 1)]);
+            int later = night < to ? gain(night + 1, used, i, LATER) : 0;
+            packed |= pack(Math.max(later, unpack(packed, 1)), LATER);
+            gains[cell(night, used, i)] = packed;
         }
 
         private int gainRested(int night, int used, int i) {
@@ -687,7 +696,7 @@ public final class VanPlays {
             for (int next = 0; next < size; next++) {
                 int first = night + Math.max(2, nightsApart[i * MOST_ASKED + next]);
                 if (!has(used, next) && first <= to) {
-                    most = Math.max(most, laterGain[laterCell(first, used | 1 << next, next)]);
+                    most = Math.max(most, gain(first, used | 1 << next, next, LATER));
                 }
             }
             return most;
@@ -697,7 +706,7 @@ public final class VanPlays {
             int most = 0;
             for (int next = 0; next < size && night < to; next++) {
                 if (!has(used, next) && nightsApart[i * MOST_ASKED + next] <= 1) {
-                    most = Math.max(most, gain[cell(night + 1, used | 1 << next, next, run + 1)]);
+                    most = Math.max(most, gain(night + 1, used | 1 << next, next, run + 1));
                 }
             }
             return most;
@@ -725,7 +734,7 @@ public final class VanPlays {
         private int mostPoints() {
             int most = 0;
             for (int i = 0; i < size; i++) {
-                most = Math.max(most, laterGain[laterCell(from, 1 << i, i)]);
+                most = Math.max(most, gain(from, 1 << i, i, LATER));
             }
             return most;
         }
@@ -733,7 +742,7 @@ public final class VanPlays {
         private int firstBringing(int left, int night, int used, int last, int nights, int run) {
             for (int i = 0; i < size; i++) {
                 boolean near = last == NONE || nightsApart[last * MOST_ASKED + i] <= nights;
-                if (near && !has(used, i) && gain[cell(night, used | 1 << i, i, run)] == left) {
+                if (near && !has(used, i) && gain(night, used | 1 << i, i, run) == left) {
                     return i;
                 }
             }
@@ -744,12 +753,20 @@ public final class VanPlays {
             return (set >> i & 1) != 0;
         }
 
-        private static int cell(int night, int used, int i, int run) {
-            return laterCell(night, used, i) * MOST_ASKED + run - 1;
+        private int gain(int night, int used, int i, int run) {
+            return unpack(gains[cell(night, used, i)], run);
         }
 
-        private static int laterCell(int night, int used, int i) {
+        private static int cell(int night, int used, int i) {
             return (night * SETS + used) * MOST_ASKED + i;
+        }
+
+        private static long pack(int points, int run) {
+            return (long) points << GAIN_BITS * run;
+        }
+
+        private static int unpack(long packed, int run) {
+            return (int) (packed >>> GAIN_BITS * run) & GAIN_MASK;
         }
     }
 

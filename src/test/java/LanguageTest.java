@@ -14,7 +14,7 @@ public final class LanguageTest {
         none(source, 3, "a double, a float, another list", "\\b(double|float|Double|Float|Map|Set|Stack|Deque)\\b");
         none(source, 4, "an Exact function", "\\w+Exact\\b");
         none(source, 4, "another package", "import (?!java\\.util\\.(Arrays|NoSuchElementException|ArrayList|List);)");
-        none(source, 5, "a static field that is not final", "static (?!final|boolean|int|void|class)");
+        none(source, 5, "a static field that is not final", "static (?!final |class |\\w+ \\w+\\()");
         none(source, 6, "an exception not asked for", "throw new (?!NoSuchElementException\\()");
         none(source, 6, "a catch, finally, assert, synchronized", "\\b(try|catch|finally|assert|synchronized)\\b");
         none(source, 13, "the outside", "\\b(System\\.(?!arraycopy)|Thread|Random|Math\\.random|Runtime)");

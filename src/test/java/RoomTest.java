@@ -1,20 +1,89 @@
 import java.lang.management.ManagementFactory;
+import java.lang.reflect.Array;
+import java.lang.reflect.Field;
+import java.lang.reflect.Modifier;
+import java.util.ArrayDeque;
+import java.util.Collections;
+import java.util.Deque;
+import java.util.IdentityHashMap;
+import java.util.Set;
 
-/** An object's rows are made once: 512 calls of the dearest kinds leave next to nothing in the run's one room. */
+/** All calls of a run live in one room: an object's rows are made once and are few, its calls leave next to nothing. */
 public final class RoomTest {
-    private static final long MOST_BYTES_OF_OBJECT = 250_000;
+    private static final int CALLS = 512;
+    private static final long MOST_OBJECTS = 600_000;
+    private static final long MOST_ELEMENTS = 7_300_000;
     private static final long MOST_BYTES_OF_CALLS = 60_000;
 
-    public static void main(String[] args) {
+    public static void main(String[] args) throws IllegalAccessException {
+        aNewObjectIsSmall();
+        callsLeaveNothing();
+        Check.close();
+    }
+
+    /** Making an object is the dearest call: even a run of nothing else has room. */
+    private static void aNewObjectIsSmall() throws IllegalAccessException {
+        long[] size = sizeOf(new VanPlays());
+        Check.due("objects are found: " + size[0], size[0] > 20 && size[1] > size[0], true);
+        Check.due("objects of an object are few: " + size[0], size[0] * CALLS < MOST_OBJECTS, true);
+        Check.due("fields and elements of an object are few: " + size[1], size[1] * CALLS < MOST_ELEMENTS, true);
+    }
+
+    private static void callsLeaveNothing() throws IllegalAccessException {
         dearCalls(new VanPlays());
-        long start = bytesSoFar();
         VanPlays x = new VanPlays();
+        long[] before = sizeOf(x);
         long made = bytesSoFar();
         dearCalls(x);
         long end = bytesSoFar();
-        Check.due("bytes of an object are few: " + (made - start), made - start < MOST_BYTES_OF_OBJECT, true);
+        long[] after = sizeOf(x);
         Check.due("bytes of its calls are few: " + (end - made), end - made < MOST_BYTES_OF_CALLS, true);
-        Check.close();
+        Check.due("objects behind its calls", after[0], before[0]);
+        Check.due("fields and elements behind its calls", after[1], before[1]);
+    }
+
+    /** How many objects and arrays hang on this one, and how many fields and elements they have. */
+    private static long[] sizeOf(Object root) throws IllegalAccessException {
+        Set<Object> seen = Collections.newSetFromMap(new IdentityHashMap<>());
+        Deque<Object> open = new ArrayDeque<>();
+        seen.add(root);
+        open.add(root);
+        long fields = 0;
+        while (!open.isEmpty()) {
+            Object one = open.remove();
+            fields += one.getClass().isArray() ? lookIntoArray(one, seen, open) : lookIntoFields(one, seen, open);
+        }
+        return new long[] {seen.size(), fields};
+    }
+
+    private static long lookIntoArray(Object array, Set<Object> seen, Deque<Object> open) {
+        int length = Array.getLength(array);
+        for (int i = 0; i < length && !array.getClass().getComponentType().isPrimitive(); i++) {
+            see(Array.get(array, i), seen, open);
+        }
+        return length;
+    }
+
+    private static long lookIntoFields(Object one, Set<Object> seen, Deque<Object> open)
+            throws IllegalAccessException {
+        long fields = 0;
+        for (Field field : one.getClass().getDeclaredFields()) {
+            if (Modifier.isStatic(field.getModifiers())) {
+                continue;
+            }
+            fields++;
+            field.setAccessible(true);
+            if (!field.getType().isPrimitive()) {
+                see(field.get(one), seen, open);
+            }
+        }
+        return fields;
+    }
+
+    private static void see(Object one, Set<Object> seen, Deque<Object> open) {
+        if (one != null && seen.add(one)) {
+            open.add(one);
+        }
     }
 
     private static long bytesSoFar() {

@@ -8,6 +8,7 @@ public final class TourTest {
         onceEach();
         noOtherShowThere();
         noNightIsLeft();
+        whatCannotBeHadBringsNothing();
         waysJustLongEnough();
         waysOfManyNights();
         waysBackToALesserHall();
@@ -140,6 +141,27 @@ public final class TourTest {
         x.give(0, 0, 0);
         x.book(0);
         dueBook("a night is left", x, 2, 8, "0");
+    }
+
+    /** The same, of a HALL near one of two like ones: it makes neither of them the BEST. */
+    private static void whatCannotBeHadBringsNothing() {
+        VanPlays x = new VanPlays();
+        Check.wideHall(x, 0, 0);
+        Check.wideHall(x, 50, 0);
+        Check.wideHall(x, 51, 0);
+        for (int night = 0; night < 3; night++) {
+            Check.smallShow(x, night, night, 1, 1);
+            x.give(2, night, 1);
+            x.book(night);
+        }
+        Check.smallShow(x, 0, 2, 1, 14);
+        x.give(0, 3, 5);
+        x.give(1, 3, 5);
+        x.give(2, 3, 1);
+        dueBook("taken on all nights", x, 3, 5, "0");
+        x.give(2, 2, 0);
+        x.book(2);
+        dueBook("to be had on the last night", x, 3, 6, "1.2");
     }
 
     /** A hall in the corner and one so many miles from it; the show can have both if the way is not too long. */
