@@ -4,6 +4,7 @@ public final class TourTest {
         nothingAsked();
         askedGavePoints();
         askedAreSix();
+        aSeventhHasNoPart();
         askedFit();
         onceEach();
         noOtherShowThere();
@@ -79,6 +80,17 @@ public final class TourTest {
         dueBook("a seventh is not asked", scheme(0, 13, 1, 14, 1, 1, 1, 1, 1, 1, 10), 0, 6, "012345");
         dueBook("six of twelve", scheme(0, 13, 1, 14, 1, 0, 1, 1, 1, 1, 1, 10, 10, 0, 10, 10), 0, 6, "023456");
         dueBook("the last six of twelve", scheme(0, 13, 1, 14, 0, 0, 0, 0, 0, 0, 2, 2, 2, 2, 2, 2), 0, 12, "6789ab");
+    }
+
+    /** The same: on which NIGHTS a seventh is taken makes no NIGHT of the six another. */
+    private static void aSeventhHasNoPart() {
+        VanPlays x = scheme(0, 13, 1, 14, 1, 1, 1, 1, 1, 1, 1);
+        for (int s = 1; s < 6; s++) {
+            Check.smallShow(x, s, s, 1, 1);
+            x.give(6, s, 1);
+            x.book(s);
+        }
+        dueBook("a seventh that is taken on the nights of the six", x, 0, 6, "012345");
     }
 
     /** "that it FITS": one that it does not fit does not count among the six. */
